@@ -100,7 +100,7 @@ public final class BoardTest {
         Checks.same("a name of 1 letter", Checks.name(desk, 1, false), "Z");
         Checks.same("a gene's name", Checks.name(desk, 0, true), "a:_9AZz");
         Checks.same("a gene's name of 7 letters", Checks.name(desk, 1, true), "abcdefg");
-        int[] outside = {-1, 12, 13, 64, Integer.MAX_VALUE, Integer.MIN_VALUE};
+        int[] outside = {-1, -2, -3, -4, -5, -6, -7, -8, -9, -12, 12, 13, 64, Integer.MAX_VALUE, Integer.MIN_VALUE};
         for (int i : outside) {
             Checks.same("letter " + i, desk.letter(0, false, i), TermDesk.NONE);
         }

@@ -39,6 +39,8 @@ public final class PrintTest {
         Checks.same("a chance", Checks.print(desk, 0, 0, TermDesk.NONE), "1/20");
         Checks.same("value 3", Checks.print(desk, 2, 3, TermDesk.NONE), "5/8");
         Checks.same("a whole one", Checks.print(desk, 4, 0, TermDesk.NONE), "1");
+        Checks.same("53/106", Checks.print(single(106, 1, 53, 1), 0, 0, TermDesk.NONE), "1/2");
+        Checks.same("199 of C(199, 1)", Checks.print(single(199, 1, 199, 1), 0, 0, TermDesk.NONE), "1");
         Checks.same("a capped one", Checks.print(desk, 1, 1, TermDesk.NONE), "1");
     }
 

@@ -14,6 +14,7 @@ public final class ReportTest {
         staysAsMade();
         oldOnesAndNoStudy();
         wholeStudy();
+        equalChances();
         Checks.end();
     }
 
@@ -135,5 +136,17 @@ public final class ReportTest {
         Checks.same("all genes in the study", desk.report(0, 1, 1), 6);
         Checks.same("by numbers", names(desk), "wvzyxu");
         Checks.same("all certain", values(desk, 3), "1 1 1 1 1 1");
+    }
+
+    /** The corrections carry the greatest, or the least, over from one of the same chance to the other. */
+    private static void equalChances() {
+        TermDesk desk = Checks.desk("gene a\ngene b\ngene c\ngene d\ngene e\ngene f\nstudy a\n"
+            + "term x\nterm y\nnote a y\nnote a x\n");
+        desk.report(0, 1, 1);
+        Checks.same("the order", names(desk), "xy");
+        Checks.same("chances", values(desk, 0), "1/6 1/6");
+        Checks.same("times all", values(desk, 1), "1/3 1/3");
+        Checks.same("step down", values(desk, 2), "1/3 1/3");
+        Checks.same("step up", values(desk, 3), "1/6 1/6");
     }
 }
