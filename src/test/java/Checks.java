@@ -4,6 +4,7 @@ import java.nio.charset.StandardCharsets;
 final class Checks {
     private static int looked = 0;
     private static int wrong = 0;
+    private static String sentence = "";
 
     private Checks() {
     }
@@ -12,11 +13,16 @@ final class Checks {
         void make();
     }
 
+    /** The document's words that the checks from here on hold the class to: told with each that fails. */
+    static void sentence(String words) {
+        sentence = " [" + words + "]";
+    }
+
     static void same(String what, Object got, Object due) {
         looked++;
         if (!due.equals(got)) {
             wrong++;
-            System.out.println(what + " answered " + got + ", due is " + due);
+            System.out.println(what + " answered " + got + ", due is " + due + sentence);
         }
     }
 

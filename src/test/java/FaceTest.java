@@ -45,7 +45,23 @@ public final class FaceTest {
                 !Modifier.isStatic(field.getModifiers()) || Modifier.isFinal(field.getModifiers()), true);
         }
         Checks.same("NONE", TermDesk.NONE, -1);
+        insideClasses();
         Checks.end();
+    }
+
+    /** LANGUAGE.md, rules 1 and 5: they are static and not public, no name of theirs is the face's, no static changes. */
+    private static void insideClasses() {
+        for (Class<?> inside : TermDesk.class.getDeclaredClasses()) {
+            Checks.same("static " + inside.getName(), Modifier.isStatic(inside.getModifiers()), true);
+            Checks.same("public " + inside.getName(), Modifier.isPublic(inside.getModifiers()), false);
+            for (Method method : inside.getDeclaredMethods()) {
+                Checks.same("the face's name " + method.getName(), DUE.contains(" " + method.getName() + "("), false);
+            }
+            for (Field field : inside.getDeclaredFields()) {
+                boolean changes = Modifier.isStatic(field.getModifiers()) && !Modifier.isFinal(field.getModifiers());
+                Checks.same("a static field that changes " + field.getName(), changes, false);
+            }
+        }
     }
 
     private static String told(Method method) {

@@ -1,6 +1,6 @@
 /** Promise 5, with each fault, its place, and that nothing of its line is done. */
 public final class FaultTest {
-    private static final String BOARD = "term a\nterm b\nterm c\nterm o\nisa a b\nisa b c\nisa o c\nold o\nalias bb b\n"
+    static final String BOARD = "term a\nterm b\nterm c\nterm o\nisa a b\nisa b c\nisa o c\nold o\nalias bb b\n"
         + "gene g\ngene h\nnote g a\n";
 
     public static void main(String[] args) {
@@ -20,7 +20,7 @@ public final class FaultTest {
     }
 
     /** The last line has the fault, at a place that is counted from that line's begin. */
-    private static void faulty(String line, int number, int place) {
+    static void faulty(String line, int number, int place) {
         TermDesk desk = Checks.desk(BOARD);
         String before = Checks.state(desk).replaceFirst("fault \\S+ \\S+", "");
         String head = "\nstudy h\n";
@@ -35,7 +35,7 @@ public final class FaultTest {
         Checks.same("the place of a last " + line, atEnd.fault(1), place);
     }
 
-    private static void right(String line) {
+    static void right(String line) {
         TermDesk desk = Checks.desk(BOARD);
         Checks.same("lines done of " + line, Checks.run(desk, line), 1);
         Checks.same("no fault of " + line, desk.fault(0), 0);
@@ -181,11 +181,11 @@ public final class FaultTest {
         faulty("note x ", 3, 5);
     }
 
-    private static String two(int i) {
+    static String two(int i) {
         return "" + (char) ('a' + i / 26) + (char) ('a' + i % 26);
     }
 
-    private static String lines(String first, int count) {
+    static String lines(String first, int count) {
         StringBuilder text = new StringBuilder();
         for (int i = 0; i < count; i++) {
             text.append(first).append(' ').append(two(i)).append('\n');

@@ -18,7 +18,7 @@ public final class PrintTest {
     }
 
     /** One term, of whose genes so many are in the study. */
-    private static TermDesk single(int genes, int studied, int size, int hits) {
+    static TermDesk single(int genes, int studied, int size, int hits) {
         StringBuilder text = new StringBuilder("term t\n");
         for (int i = 0; i < genes; i++) {
             text.append("gene ").append(i).append('\n');
