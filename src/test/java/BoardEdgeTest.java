@@ -17,6 +17,7 @@ public final class BoardEdgeTest {
         oldAndCandidates();
         mostParents();
         longestWays();
+        waysInAnyOrder();
         wrongAbout();
         wrongTerms();
         lettersOfNames();
@@ -235,6 +236,19 @@ public final class BoardEdgeTest {
         Checks.same("one link more", desk.term(0, 6), 5);
         Checks.run(desk, "old 5\nold 7");
         Checks.same("through old ones", desk.term(0, 6), 5);
+    }
+
+    private static void waysInAnyOrder() {
+        Checks.sentence("term: the longest way of links up from it (6), whatever was asked before");
+        TermDesk desk = Checks.desk(numbered("term", 200) + chain(1));
+        int[] asked = {0, 199, 0, 198, 0, 197, 1, 199, 1, 198, 2, 199, 0, 0, 199, 199, 100, 199, 101, 198, 0, 100};
+        for (int i = 0; i < asked.length; i++) {
+            Checks.same("question " + i + " of " + asked[i], desk.term(asked[i], 6), 199 - asked[i]);
+        }
+        desk.term(0, 6);
+        desk.clear();
+        Checks.run(desk, numbered("term", 200));
+        Checks.same("behind clear()", desk.term(199, 6) + desk.term(198, 6) + desk.term(0, 6), 0);
     }
 
     private static void wrongAbout() {

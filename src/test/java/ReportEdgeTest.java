@@ -10,6 +10,7 @@ public final class ReportEdgeTest {
 
     public static void main(String[] args) {
         smallChances();
+        chancesBesideOthers();
         oneCandidate();
         capped();
         carriedOn();
@@ -54,6 +55,32 @@ public final class ReportEdgeTest {
                         Checks.same(what, Checks.print(desk, 0, 0, TermDesk.NONE), counted(genes, studied, size, hits));
                     }
                 }
+            }
+        }
+    }
+
+    /** Each K with each k in one report, so that terms share the one and not the other. */
+    private static void chancesBesideOthers() {
+        Checks.sentence("K how many are at the term, k how many of these in the study (of each term its own)");
+        StringBuilder text = new StringBuilder("gene 0\ngene 1\ngene 2\ngene 3\ngene 4\ngene 5\ngene 6\ngene 7\n"
+            + "study 0\nstudy 1\nstudy 2\nstudy 3\n");
+        for (int size = 8; size >= 1; size--) {
+            for (int hits = Math.max(1, size - 4); hits <= Math.min(size, 4); hits++) {
+                String term = "K" + size + "k" + hits;
+                text.append("term ").append(term).append('\n');
+                for (int i = 0; i < size; i++) {
+                    text.append("note ").append(i < hits ? i : 4 + i - hits).append(' ').append(term).append('\n');
+                }
+            }
+        }
+        TermDesk desk = Checks.desk(text.toString());
+        for (int value = 0; value < 4; value++) {
+            Checks.same("rows", desk.report(value, 1, 1), desk.about(3));
+            for (int row = 0; row < desk.about(4); row++) {
+                String name = Checks.name(desk, desk.row(row, 0), false);
+                Checks.same("the row of " + name, "K" + desk.row(row, 3) + "k" + desk.row(row, 1), name);
+                String due = counted(8, 4, name.charAt(1) - '0', name.charAt(3) - '0');
+                Checks.same("the chance of " + name, Checks.print(desk, row, 0, TermDesk.NONE), due);
             }
         }
     }
